@@ -980,7 +980,7 @@ public final class FreeParts {
             powers.begin(1);
             for (int k = 1; k <= n; k++) {
                 to[k] = (from[k] + sumOfFiner(sort, k, from, to)) % p;
-                powers.add(k, to[k]);
+                keepPowers(sort, k, to[k]);
             }
         }
 
@@ -988,7 +988,14 @@ public final class FreeParts {
             powers.begin(1);
             for (int k = 1; k <= n; k++) {
                 to[k] = (from[k] + p - sumOfFiner(sort, k, to, from)) % p;
-                powers.add(k, from[k]);
+                keepPowers(sort, k, from[k]);
+            }
+        }
+
+        /** Powers cost most of the work, and sort 1 alone looks at them. */
+        private void keepPowers(int sort, int k, long moment) {
+            if (sort == FREE_PARTINGS) {
+                powers.add(k, moment);
             }
         }
 

@@ -127,8 +127,9 @@ public final class PromisesTest {
         for (int p : kept) {
             due("new FreeParts(" + p + ").count(6)", new FreeParts(p).count(6), p);
         }
-        // 100 and 2000000000 end the range; 44711 squared, and 2 * 3 * 5 .., are not prime; 2000000011 is, but too large.
-        int[] refused = {100, 97, 2, 1, 0, -1, -101, MIN, MAX, 102, 105, 121, 169, 2000000000, 2000000011,
+        // 97 and 2000000011 are prime, but outside; 104, 111 have no divisor but 2 or 3 up to their roots;
+        // 1999073521 is 44711 squared.
+        int[] refused = {100, 97, 104, 111, 2, 1, 0, -1, -101, MIN, MAX, 102, 105, 121, 169, 2000000000, 2000000011,
             1999073521, 1999999974, 1999999975, 10403, 561, 1105};
         for (int p : refused) {
             due("new FreeParts(" + p + ").count(6)", new FreeParts(p).count(6), 998244353);
