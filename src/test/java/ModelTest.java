@@ -12,7 +12,7 @@ import java.util.Random;
  */
 public final class ModelTest {
     private static final int NONE = -1000000, BAD = -1000001;
-    private static final int RUNS = 600, CALLS = 512;
+    private static final int RUNS = 1500, CALLS = 512, MOST_AT_ONCE = 14;
 
     private static int wrong = 0;
     private static long seen = 0;
@@ -667,11 +667,11 @@ public final class ModelTest {
     }
 
     private static void latticeOf(int n) {
-        FreeParts x = new FreeParts(101);
         for (int[] a : free(n)) {
-            put(x, 0, a);
             long undone = 0;
             for (int[] b : free(n)) {
+                FreeParts x = new FreeParts(101);
+                put(x, 0, a);
                 put(x, 1, b);
                 String what = Arrays.toString(a) + ", " + Arrays.toString(b);
                 x.both(2, 0, 1, 0);
@@ -686,10 +686,10 @@ public final class ModelTest {
     }
 
     private static void allInOrder() {
-        FreeParts x = new FreeParts(101);
         for (int n = 1; n <= 10; n++) {
             long weights = 0;
             for (int i = 0; i < free(n).size(); i++) {
+                FreeParts x = new FreeParts(101);
                 int[] row = free(n).get(i);
                 String what = "nth(0, " + n + ", " + i + ")";
                 due(what, x.nth(0, n, i), kindOf(row));
@@ -724,9 +724,11 @@ public final class ModelTest {
         }
         for (int h = 1; h <= 10; h++) {
             for (int v = 0; v <= 1000; v++) {
+                x = v % CALLS == 0 ? new FreeParts(1999999973) : x;
                 due("mean(" + h + ", " + v + ")", x.mean(h, v), meanOf(h, v).mod(BigInteger.valueOf(1999999973)).longValue());
             }
         }
+        x = new FreeParts(1999999973);
         for (int r = 1; r <= 4; r++) {
             for (int n = 0; n <= 12; n++) {
                 due("walks(" + r + ", " + n + ")", x.walks(r, n), walksByReturns(r, n));
@@ -826,11 +828,11 @@ public final class ModelTest {
         int few = seed % 2 == 0 ? 2 : 7;
         int shelf = seed % 2 == 0 ? 4 : 9;
         int points = seed % 3 == 0 ? 10 : 6;
-        for (int call = 0; call < CALLS; call += 2) {
-            if (!oneCall(x, m, random, few, shelf, points, "run " + seed + ", call " + call + ": ")) {
-                return;
-            }
-            if (!due("run " + seed + ", call " + call + ": status()", x.status(), m.status)) {
+        // Each answer seen is one call, and no step takes more than some: an object is good for so many calls.
+        long first = seen;
+        while (seen - first <= CALLS - MOST_AT_ONCE) {
+            String run = "run " + seed + ", call " + (seen - first + 1) + ": ";
+            if (!oneCall(x, m, random, few, shelf, points, run) || !due(run + "then status()", x.status(), m.status)) {
                 return;
             }
         }

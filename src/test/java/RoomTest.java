@@ -8,7 +8,7 @@ public final class RoomTest {
     private static int wrong = 0;
 
     public static void main(String[] args) {
-        for (int sort = 0; sort < 8; sort++) {
+        for (int sort = 0; sort < 10; sort++) {
             // The first time of each is not counted: the machine itself makes objects then.
             run(sort);
             long before = bytes();
@@ -51,7 +51,9 @@ public final class RoomTest {
             case 4: return x.told(0, 3);
             case 5: return x.join(1, 0, 0, 3);
             case 6: return x.hankel(0, 4);
-            default: return x.walks(4, 12) + x.mean(10, 1000) + x.ask(0, 0);
+            case 7: return x.walks(4, 12);
+            case 8: return x.mean(10, 1000);
+            default: return x.ask(0, 0);
         }
     }
 }
