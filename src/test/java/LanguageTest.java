@@ -42,9 +42,9 @@ public final class LanguageTest {
         "int change(int,int,int,int)", "long hankel(int,int)", "int same(int,int)", "long genus(int,int)",
         "long mean(int,int)", "long walks(int,int)", "int count(int)", "int status()"};
 
-    private static final Set<String> LIBRARY = Set.of(
-        "Arrays.fill", "Arrays.copyOf", "Arrays.copyOfRange", "System.arraycopy",
-        "Math.max", "Math.min", "Math.abs", "Math.floorMod", "Math.floorDiv");
+    private static final Set<String> LIBRARY = Set.of("Arrays.fill", "Arrays.copyOf", "Arrays.copyOfRange", "System.arraycopy");
+    private static final Set<String> TYPES = Set.of("int", "long", "short", "byte", "char", "boolean", "double", "float", "String",
+        "StringBuilder", "Integer");
 
     private static int wrong = 0;
 
@@ -106,19 +106,33 @@ public final class LanguageTest {
                     String name = i.getQualifiedIdentifier().toString();
                     rule(4, Set.of("java.util.Arrays", "java.util.ArrayList", "java.util.List").contains(name), "import " + name);
                 }
-                new Rules(unit, Trees.instance(task).getSourcePositions()).scan(unit, null);
+                OwnClasses own = new OwnClasses();
+                own.scan(unit, null);
+                new Rules(unit, Trees.instance(task).getSourcePositions(), own.names).scan(unit, null);
             }
+        }
+    }
+
+    private static final class OwnClasses extends TreeScanner<Void, Void> {
+        final Set<String> names = new TreeSet<>();
+
+        @Override
+        public Void visitClass(ClassTree tree, Void none) {
+            names.add(tree.getSimpleName().toString());
+            return super.visitClass(tree, none);
         }
     }
 
     private static final class Rules extends TreeScanner<Void, Void> {
         private final CompilationUnitTree unit;
         private final SourcePositions positions;
+        private final Set<String> own;
         private int classes = 0;
 
-        Rules(CompilationUnitTree unit, SourcePositions positions) {
+        Rules(CompilationUnitTree unit, SourcePositions positions, Set<String> own) {
             this.unit = unit;
             this.positions = positions;
+            this.own = own;
         }
 
         private long line(long position) {
@@ -164,8 +178,11 @@ public final class LanguageTest {
         @Override
         public Void visitMemberSelect(MemberSelectTree tree, Void none) {
             String owner = tree.getExpression().toString();
-            if (Set.of("Arrays", "System", "Math", "Integer", "Long", "Thread", "Runtime").contains(owner)) {
+            if (Set.of("Arrays", "System", "Thread", "Runtime").contains(owner)) {
                 rule(4, LIBRARY.contains(tree.toString()), tree.toString());
+            }
+            if (Set.of("Math", "Integer", "Long").contains(owner)) {
+                rule(4, !tree.toString().endsWith("Exact") && !tree.toString().equals("Math.random"), tree.toString());
             }
             return super.visitMemberSelect(tree, none);
         }
@@ -173,8 +190,10 @@ public final class LanguageTest {
         @Override
         public Void visitVariable(VariableTree tree, Void none) {
             String type = String.valueOf(tree.getType());
-            boolean fits = type.matches("(int|long|boolean)(\\[\\]){0,2}|(Thing)(\\[\\])?|Order|Cumulants|Powers");
-            rule(3, fits, tree.getName() + " has the type " + type);
+            String single = type.replaceFirst("<.*>", "").replaceAll("(\\[\\])+$", "");
+            boolean list = single.equals("List") || single.equals("ArrayList");
+            rule(3, list || TYPES.contains(single) || own.contains(single), tree.getName() + " has the type " + type);
+            rule(3, !type.endsWith("[][][]") && !(type.endsWith("[][]") && own.contains(single)), tree.getName() + " has the type " + type);
             return super.visitVariable(tree, none);
         }
 

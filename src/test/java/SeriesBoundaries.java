@@ -81,7 +81,12 @@ final class SeriesBoundaries {
         Run big = new Run(Run.BIG);
         for (int sort = 0; sort < 3; sort++) {
             big.series(0, sort, -1, 0, 0, 0).dueMoments(0, Run.BIG - 1 + " 1 " + (Run.BIG - 1) + " 1").dueNumbers(0, sort, Run.BIG - 1 + " 0 0 0");
-            big.series(0, sort, -1, -1, -1, -1).dueNumbers(0, sort, (Run.BIG - 1 + " ").repeat(4).trim());
+        }
+        // All are p - 1: m(n) is how many partings have BLOCKS even in number, less how many have them odd.
+        long[][] less = {{-1, 0, 1, 1, -2, -9, -9, 50}, {-1, 0, 1, 0, -2, 0, 5, 0}, {-1, 0, 0, 0, 0, 0, 0, 0}};
+        for (int sort = 0; sort < 3; sort++) {
+            big.series(0, sort, -1, -1, -1, -1, -1, -1, -1, -1).dueMoments(0, signed(less[sort]));
+            big.series(0, NONE, less[sort]).dueNumbers(0, sort, signed(-1, -1, -1, -1, -1, -1, -1, -1));
         }
     }
 
